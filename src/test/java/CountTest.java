@@ -12,6 +12,8 @@ public final class CountTest {
         promise13OneCandidate();
         promise13BlackAndBorda();
         promise13EmptyBallots();
+        promise13Bucklin();
+        promise13AfterChanges();
         promise14Winner();
         promise15Points();
         promises16To18();
@@ -151,6 +153,31 @@ public final class CountTest {
         Check.due("Bucklin without majority: points(8, 1)", election(28, 3, 1, 2, 2, 4, 5).points(8, 1), 2);
     }
 
+    private static void promise13Bucklin() {
+        // 2 of 4 voters are not more than half, so that the second places count too
+        RankedVotes x = election(24, 2, 12, 1, 23, 1, 32);
+        Check.due("just half: winners(8)", x.winners(8), 2);
+        Check.due("just half: points(8, 1)", x.points(8, 1), 4);
+        // 3 of 5 are more, so that they do not
+        RankedVotes y = election(24, 3, 12, 2, 21);
+        Check.due("more than half: winners(8)", y.winners(8), 1);
+        Check.due("more than half: points(8, 1)", y.points(8, 1), 2);
+    }
+
+    private static void promise13AfterChanges() {
+        RankedVotes x = election(28, 2, 12, 1, 21);
+        for (int rule = 0; rule < 12; rule++) {
+            Check.due("2 against 1: winners(" + rule + ")", x.winners(rule), 1);
+        }
+        Check.due("2 against 1: isLocked(0, 1)", x.isLocked(0, 1), 1);
+        x.setVoters(1, 3);
+        for (int rule = 0; rule < 12; rule++) {
+            Check.due("2 against 3: winners(" + rule + ")", x.winners(rule), 2);
+        }
+        Check.due("2 against 3: isLocked(0, 1)", x.isLocked(0, 1), 0);
+        Check.due("2 against 3: isLocked(1, 0)", x.isLocked(1, 0), 1);
+    }
+
     private static void promise14Winner() {
         RankedVotes x = capitals();
         int[] due = {0, 1, 1, 1, 1, 1, 3, 1, 1, 1, 1, 1};
@@ -231,6 +258,7 @@ public final class CountTest {
         Check.due("without 1: strength(3, 2)", x.strength(3, 2), 28);
         Check.due("without 1: strength(1, 2)", x.strength(1, 2), BAD_STATE);
         Check.due("without 1: strength(2, 1)", x.strength(2, 1), BAD_STATE);
+        Check.due("equal: strength(0, 1)", election(28, 1, 12, 1, 21).strength(0, 1), 0);
         Check.due("capitals: strength(0, 1)", capitals().strength(0, 1), 0);
         Check.due("capitals: strength(1, 0)", capitals().strength(1, 0), 58);
     }
@@ -340,6 +368,18 @@ public final class CountTest {
     }
 
     private static void promise26Favourite() {
+        // each rule counts once: 0 wins by some, 1 or 2 by others
+        int[] ballots = {123, 132, 213, 231, 312, 321};
+        for (int i = 0; i < 216; i++) {
+            RankedVotes x = election(24, 5, ballots[i % 6], 4, ballots[i / 6 % 6], 3, ballots[i / 36], 1 + i % 7, 3);
+            int[] wins = new int[5];
+            for (int rule = 0; rule < 12; rule++) {
+                wins[x.winner(rule)]++;
+            }
+            int due = wins[1] > wins[0] ? 1 : 0;
+            due = wins[2] > wins[due] ? 2 : due;
+            Check.due("election " + i + ": favourite()", x.favourite(), due);
+        }
         Check.due("capitals: favourite()", capitals().favourite(), 1);
         Check.due("cycle: favourite()", cycle().favourite(), 0);
         Check.due("no groups: favourite()", new RankedVotes().favourite(), 0);

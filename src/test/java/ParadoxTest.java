@@ -7,6 +7,7 @@ public final class ParadoxTest {
     public static void main(String[] args) {
         promises27And28();
         promise28FirstOrder();
+        promise28FirstAndLastOrder();
         promise27BestOfSeveral();
         promise27WithdrawnOnBallot();
         promise29Strategists();
@@ -70,13 +71,24 @@ public final class ParadoxTest {
         // then group 1 is the one of 2, and has what it wants
         dueStrategy("four stand", x, 0, 1, NONE, NONE, NONE, NONE, NONE);
         Check.due("four stand: strategyAt(0, 1, 4)", x.strategyAt(0, 1, 4), BAD_INDEX);
-        // the group that ranks nobody else could let 3 win, the second on its ballot
+        // the group of two can't help 2, but 3, the second on its ballot
         RankedVotes y = new RankedVotes();
         y.setStanding(0, false);
         y.addGroup(9, 2);
         y.addGroup(8, 4);
         y.addGroup(2, 34);
         dueStrategy("without 0", y, 0, 2, 3, 3, 1, 2, 4);
+    }
+
+    private static void promise28FirstAndLastOrder() {
+        // by points of places, 28 to 26, 0 wins; group 1 must put 0 last, behind the one it likes least
+        RankedVotes x = election(5, 132, 4, 312);
+        Check.due("bury: winner(1)", x.winner(1), 0);
+        dueStrategy("bury", x, 1, 1, 2, 2, 1, 0);
+        RankedVotes y = election(5, 123, 4, 213);
+        dueStrategy("bury by the fourth order", y, 1, 1, 1, 1, 2, 0);
+        RankedVotes z = election(9, 2, 8, 1, 2, 31, 1, 3);
+        dueStrategy("help by the first order", z, 0, 2, 0, 0, 1, 2);
     }
 
     private static void promise27BestOfSeveral() {
@@ -107,6 +119,8 @@ public final class ParadoxTest {
         RankedVotes y = election(9, 1, 8, 2, 2, 32, 2, 32, 1, 3);
         // either of both groups of two is enough to let 1 win
         Check.due("two of them: strategists(0)", y.strategists(0), 12);
+        RankedVotes first = election(2, 32, 9, 1, 8, 2, 1, 3);
+        Check.due("the first: strategists(0)", first.strategists(0), 1);
         RankedVotes z = election();
         for (int g = 0; g < 18; g++) {
             z.addGroup(1, 123);
@@ -124,6 +138,8 @@ public final class ParadoxTest {
         Check.due("winner(6)", x.winner(6), 2);
         Check.due("absentees(6)", x.absentees(6), 3);
         Check.due("absentees(0)", x.absentees(0), 0);
+        // 0 leaves, and 1 wins with 16 of 25; without any one group 1 wins too, or 2, whom group 1 likes less
+        Check.due("nobody gains: absentees(6)", election(4, 123, 12, 231, 9, 312).absentees(6), 0);
         Check.due("no groups: absentees(6)", election().absentees(6), 0);
     }
 
@@ -133,6 +149,10 @@ public final class ParadoxTest {
         Check.due("winner(6)", x.winner(6), 0);
         Check.due("raisers(6)", x.raisers(6), 4);
         Check.due("raisers(0)", x.raisers(0), 0);
+        // 30, 29 and 28: 2 leaves; if either group of two raises 0, then 1 has 27 and leaves
+        RankedVotes y = election(2, 213, 30, 123, 25, 231, 28, 312, 2, 213);
+        Check.due("two groups: winner(6)", y.winner(6), 0);
+        Check.due("two groups: raisers(6)", y.raisers(6), 17);
         Check.due("no groups: raisers(6)", election().raisers(6), 0);
     }
 
@@ -153,6 +173,8 @@ public final class ParadoxTest {
         RankedVotes y = election(40, 1, 35, 23, 25, 3);
         // those who voted for 1 help 2, but not the other way round
         Check.due("one of them: spoilers(0)", y.spoilers(0), 2);
+        RankedVotes z = election(40, 2, 35, 31, 25, 13);
+        Check.due("0 and 2: spoilers(0)", z.spoilers(0), 5);
         Check.due("three stand: spoilers(0)", election(5, 1, 4, 3).spoilers(0), 0);
     }
 
