@@ -529,7 +529,7 @@ public final class RankedVotes {
         }
     }
 
-    /** The winner if one group, of a poll with all groups, were another; the poll is as before then. */
+    /** The winner if one group were another, all groups being cast; the poll is as before then. */
     private int winnerWith(int rule, int group, int voters, int ballot) {
         poll.cast(group, voters, ballot);
         int winner = rules.winnerBy(rule, poll);
@@ -721,7 +721,7 @@ public final class RankedVotes {
             return product;
         }
 
-        /** The order of a set with a number, from 0, among all its orders in lexicographic order. */
+        /** The order with a number, from 0, of all orders of a set in their lexicographic order. */
         static int order(int set, int number) {
             int order = EMPTY;
             int rest = set;
@@ -884,11 +884,11 @@ public final class RankedVotes {
             return true;
         }
 
-        /** The number from here on, or 0 if it is not allowed: its first digit is the fault then. */
+        /** The number from here on, or 0 if it is not allowed: the fault is its first digit then. */
         private int readNumber() {
             int start = at;
             int number = 0;
-            // a fourth digit makes any number too large, so that the rest of a long one can't overflow
+            // four digits are too many already, and the rest of a long number could overflow
             while (at < length && at < start + 4 && isDigit(byteAt(at))) {
                 number = number * 10 + byteAt(at) - '0';
                 at++;
@@ -1019,7 +1019,7 @@ public final class RankedVotes {
             }
         }
 
-        /** Adds to a row for how many voters each one is the last one, of a set, as Coombs tells it. */
+        /** Adds to a row how many voters' last one each one is, of a set, by the rule of Coombs. */
         void addLasts(int set, int[] row) {
             for (int g = 0; g < GROUPS; g++) {
                 int last = NOBODY;
@@ -1105,7 +1105,8 @@ public final class RankedVotes {
             for (int a = 0; a < CANDIDATES; a++) {
                 for (int b = 0; b < CANDIDATES; b++) {
                     if (a != b && Candidates.has(poll.standing, b)) {
-                        row[a] += 1 + Integer.compare(poll.above[a][b], poll.above[b][a]);
+                        int lead = poll.above[a][b] - poll.above[b][a];
+                        row[a] += lead > 0 ? 2 : lead == 0 ? 1 : 0;
                     }
                 }
             }
@@ -1248,7 +1249,7 @@ public final class RankedVotes {
             return set;
         }
 
-        /** The candidate whom more than half of the ballots that are not empty rank first, or NOBODY. */
+        /** Whom more than half of the ballots that are not empty rank first, or NOBODY. */
         private int majority() {
             int ballots = 0;
             for (int c = 0; c < firsts.length; c++) {
