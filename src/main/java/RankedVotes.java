@@ -884,7 +884,7 @@ public final class RankedVotes {
             return true;
         }
 
-        /** The number from here on, or 0 if it is not allowed: the fault is its first digit then. */
+        /** The number from here on, or 0 if it is wrong: the fault is its first digit then. */
         private int readNumber() {
             int start = at;
             int number = 0;
