@@ -1,6 +1,6 @@
 /** Promises 12 to 26: what is counted. */
 public final class CountTest {
-    private static final int NONE = -1000000, BAD_INDEX = -1000001, BAD_STATE = -1000003;
+    private static final int NONE = Votes.NONE, BAD_INDEX = Votes.BAD_INDEX, BAD_STATE = Votes.BAD_STATE;
     private static final int[] NO_RULES = {-1, 12, Integer.MIN_VALUE, Integer.MAX_VALUE};
     private static final int[] NO_CANDIDATES = {-1, 5, Integer.MIN_VALUE, Integer.MAX_VALUE};
 
@@ -26,18 +26,8 @@ public final class CountTest {
         Check.finish();
     }
 
-    /** Votes: voters and ballot by turns. */
     private static RankedVotes election(int withdrawn, int... votes) {
-        RankedVotes x = new RankedVotes();
-        for (int c = 0; c < 5; c++) {
-            if ((withdrawn >> c & 1) == 1) {
-                x.setStanding(c, false);
-            }
-        }
-        for (int i = 0; i < votes.length; i += 2) {
-            x.addGroup(votes[i], votes[i + 1]);
-        }
-        return x;
+        return Votes.election(withdrawn, votes);
     }
 
     /** Which of four towns is to be the capital; 1 beats all, 0 loses to all. */

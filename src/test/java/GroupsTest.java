@@ -1,6 +1,7 @@
 /** Promises 1 to 11: a new object, groups and candidates. */
 public final class GroupsTest {
-    private static final int BAD_INDEX = -1000001, BAD_VALUE = -1000002, BAD_STATE = -1000003, FULL = -1000004;
+    private static final int BAD_INDEX = Votes.BAD_INDEX, BAD_VALUE = Votes.BAD_VALUE, BAD_STATE = Votes.BAD_STATE,
+        FULL = Votes.FULL;
     private static final int[] NO_GROUPS = {-1, 2, 19, 20, Integer.MIN_VALUE, Integer.MAX_VALUE};
 
     public static void main(String[] args) {

@@ -6,11 +6,14 @@ import java.util.List;
  * runs can be asked for: the number of the first one, and how many.
  */
 public final class ModelTest {
-    private static final int RUNS = 48;
+    private static final int RUNS = 96;
     private static final int CALLS = 512;
     private static final int METHODS = 40;
 
     private static long seed;
+
+    /** Calls that one step made beside its first one; an object is used for 512 calls. */
+    private static int further;
 
     private static int below(int bound) {
         seed = seed * 6364136223846793005L + 1442695040888963407L;
@@ -62,6 +65,7 @@ public final class ModelTest {
         if (below(6) == 0) {
             text.deleteCharAt(below(text.length()));
         }
+        further += text.length() - 1;
         for (int i = 0; i < text.length(); i++) {
             int code = below(400) == 0 ? below(300) - 20 : text.charAt(i);
             Check.due("run " + run + ": type(" + code + ")", x.type(code), m.type(code));
@@ -149,6 +153,7 @@ public final class ModelTest {
     }
 
     private static void roundCalls(RankedVotes x, Model m, String at, int rule, int round, int c) {
+        further += 2;
         Check.due(at + "rounds(" + rule + ")", x.rounds(rule), m.rounds(rule));
         Check.due(at + "leaves(" + rule + ", " + round + ")", x.leaves(rule, round), m.leaves(rule, round));
         Check.due(at + "tally(" + rule + ", " + round + ", " + c + ")", x.tally(rule, round, c),
@@ -162,7 +167,9 @@ public final class ModelTest {
             seed = run * 7919L + 17;
             RankedVotes x = new RankedVotes();
             Model m = new Model();
-            for (int i = 0; i < CALLS; i++) {
+            further = 0;
+            // a step makes at most so many calls as a text of 22 groups has bytes
+            for (int i = 0; i + further < CALLS - 150; i++) {
                 call(x, m, run, below(METHODS), run % 4);
             }
         }

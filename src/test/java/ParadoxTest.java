@@ -1,6 +1,6 @@
 /** Promises 27 to 34: strategies and paradoxes. */
 public final class ParadoxTest {
-    private static final int NONE = -1000000, BAD_INDEX = -1000001;
+    private static final int NONE = Votes.NONE, BAD_INDEX = Votes.BAD_INDEX;
     private static final int[] NO_RULES = {-1, 12, Integer.MIN_VALUE, Integer.MAX_VALUE};
     private static final int[] NO_GROUPS = {-1, 3, 20, Integer.MIN_VALUE, Integer.MAX_VALUE};
 
@@ -25,13 +25,7 @@ public final class ParadoxTest {
 
     /** Candidates 0 to 2 alone; voters and ballot by turns. */
     private static RankedVotes election(int... votes) {
-        RankedVotes x = new RankedVotes();
-        x.setStanding(3, false);
-        x.setStanding(4, false);
-        for (int i = 0; i < votes.length; i += 2) {
-            x.addGroup(votes[i], votes[i + 1]);
-        }
-        return x;
+        return Votes.election(24, votes);
     }
 
     private static void dueStrategy(String name, RankedVotes x, int rule, int group, int leadsTo, int... order) {

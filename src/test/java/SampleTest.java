@@ -1,6 +1,7 @@
 /** Promises 35 to 37: samples and history. */
 public final class SampleTest {
-    private static final int NONE = -1000000, BAD_INDEX = -1000001, BAD_VALUE = -1000002, BAD_STATE = -1000003;
+    private static final int NONE = Votes.NONE, BAD_INDEX = Votes.BAD_INDEX, BAD_VALUE = Votes.BAD_VALUE,
+        BAD_STATE = Votes.BAD_STATE;
     private static final int[] SEEDS = {0, 1, 5, -1, 12345, 1 << 30, 987654321, -1103515245, Integer.MIN_VALUE,
         Integer.MAX_VALUE};
 

@@ -1,6 +1,7 @@
 /** Promises 38 to 41: the text. */
 public final class TextTest {
-    private static final int NONE = -1000000, BAD_VALUE = -1000002, BAD_STATE = -1000003, FULL = -1000004;
+    private static final int NONE = Votes.NONE, BAD_VALUE = Votes.BAD_VALUE, BAD_STATE = Votes.BAD_STATE,
+        FULL = Votes.FULL;
 
     public static void main(String[] args) {
         promise38Type();
@@ -17,10 +18,7 @@ public final class TextTest {
     }
 
     private static void write(RankedVotes x, String text) {
-        x.clearText();
-        for (int i = 0; i < text.length(); i++) {
-            x.type(text.charAt(i));
-        }
+        Votes.write(x, text);
     }
 
     private static void dueFault(String text, int due) {
